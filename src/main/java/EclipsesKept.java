@@ -600,15 +600,10 @@ public final class EclipsesKept {
         }
 
         int join(Need need) {
-            int number = needCount;
-            needs[number] = need;
-            // An undone need may have left its numbers in this place.
-            served[number] = 0;
-            for (int part = 0; part < ROW; part++) {
-                rows[number * ROW + part] = 0;
-            }
+            // Behind the last need all numbers are 0: so they began, and so the image keeps them.
+            needs[needCount] = need;
             needCount++;
-            return number;
+            return needCount - 1;
         }
 
         int keepCost() {
@@ -659,9 +654,10 @@ public final class EclipsesKept {
 
         // By years from now, darks and need.
         private final int[] worths = new int[MOST_YEARS * (MOST_DARKS + 1) * MOST_NEEDS];
-        // Each is a sum over all the ways that so many years may bring needs, so that
-        // fractions need no more than one line: how many such ways there are.
+        // How many ways there are for so many years to bring needs: below the line of all that
+        // is on the mean, so that what follows are sums over all of them, and whole numbers.
         final long[] ways = new long[MOST_YEARS + 1];
+        // By years left and darks; with no year left they stay 0.
         final long[][] totals = new long[MOST_YEARS + 1][MOST_DARKS + 1];
         private final long[][] spentWays = new long[MOST_YEARS + 1][MOST_DARKS + 1];
         private int needs = 0;
@@ -699,9 +695,6 @@ public final class EclipsesKept {
 
         /** Fills the totals for 0 to n years left: n are all that were looked at. */
         private void weigh(int n, int rule, int set) {
-            for (int d = 0; d <= mostDarks; d++) {
-                totals[0][d] = 0;
-            }
             for (int left = 1; left <= n; left++) {
                 for (int d = 0; d <= mostDarks; d++) {
                     totals[left][d] = weighYear(left, d, rule, set);

@@ -60,6 +60,47 @@ public final class ActsTest {
         Due.due("30: newest image alone", x.told(3), 1);
     }
 
+    /** What was told by hand comes back, though other rows were told in its place. */
+    private static void toldByHand() {
+        EclipsesKept x = new EclipsesKept();
+        Due.archived(x, "keep 0");
+        x.need(0, 0);
+        x.need(1, 0);
+        x.darks(1);
+        x.century(0);
+        x.century(1);
+        x.see(1, 13, 3);
+        x.book(1, 4);
+        x.image();
+        x.century(-1);
+        x.century(0);
+        x.century(0);
+        x.century(0);
+        x.see(-1, 0, 0);
+        x.see(0, 10, 2);
+        x.see(0, 10, 2);
+        x.book(-1, 0);
+        x.book(0, 0);
+        Due.due("30: other century", x.plan(1), 10);
+        Due.due("30: other seen", x.can(0, 0), 10);
+        Due.due("30: other book", x.looked(), -5);
+        x.undo();
+        Due.due("30: century", x.plan(0), 2);
+        Due.due("30: century", x.plan(1), 11);
+        Due.due("30: seen", x.can(0, 0), 10);
+        Due.due("30: seen", x.count(3), 1);
+        Due.due("30: book", x.looked(), 0);
+        x.see(0, 10, 2);
+        x.spare(0);
+        Due.due("30: seen is the siege's", x.can(0, 0), 0);
+        x.undo();
+        for (int k = 0; k < 4; k++) {
+            x.serve(1);
+            x.darks(1);
+        }
+        Due.due("30: book is the siege's", x.looked(), -5);
+    }
+
     /** What is left of an undone need does not come back with a new one. */
     private static void newNeeds() {
         EclipsesKept x = new EclipsesKept();
@@ -185,6 +226,7 @@ public final class ActsTest {
 
     public static void main(String[] args) {
         image();
+        toldByHand();
         newNeeds();
         acts();
         actsOfTold();

@@ -41,6 +41,9 @@ public final class ArchivesTest {
         fault("keep 123", 7);
         fault("keep 1 ", 6);
         fault("keep x", 5);
+        fault("keep :", 5);
+        fault("keep /", 5);
+        fault("keep 1:", 6);
         fault("keep ;", 5);
         fault("keep 1;", 7);
         fault("keep 1;;", 7);
@@ -55,6 +58,9 @@ public final class ArchivesTest {
         fault("fame 1 i=12", GOOD);
         fault("fame 1 i=123", 11);
         fault("fame 1 i!1", 8);
+        fault("fame 1 i1", 8);
+        fault("fame 1 =1", 7);
+        fault("fame 1 1", 7);
         fault("fame 1 i<=1", 9);
         fault("fame 1 i>-1", 9);
         fault("fame 1 I=1", 7);
@@ -121,6 +127,20 @@ public final class ArchivesTest {
         }
     }
 
+    /** In year 110 y is 0 and c is 1. */
+    private static void lateYears() {
+        EclipsesKept x = new EclipsesKept();
+        x.need(0, 0);
+        Due.archived(x, "fame 1 c=1&y=0;fame 2 c=0&y=9");
+        for (int k = 0; k < 50; k++) {
+            x.spare(0);
+        }
+        Due.due("10: year 110", x.worth(0, 60, 0), 11);
+        Due.due("10: year 109", x.worth(0, 59, 0), 12);
+        Due.due("10: year 100", x.worth(0, 50, 0), 10);
+        Due.due("10: year 99", x.worth(0, 49, 0), 10);
+    }
+
     private static void clausesTogether() {
         EclipsesKept x = new EclipsesKept();
         x.need(0, 0);
@@ -164,6 +184,7 @@ public final class ArchivesTest {
         faults();
         mostClauses();
         meaning();
+        lateYears();
         clausesTogether();
         told();
         Due.end("ArchivesTest");

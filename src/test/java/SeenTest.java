@@ -55,6 +55,20 @@ public final class SeenTest {
         Due.due("24: changes nothing", x.of(0, 1), 0);
     }
 
+    /** A SIEGE is worth 10 and the year modulo 8: now and later. */
+    private static void canAhead() {
+        EclipsesKept x = new EclipsesKept();
+        x.need(1, 0);
+        x.see(0, 17, 7);
+        Due.due("24: in year 7", x.can(0, 0), 10);
+        x.see(0, 14, 20);
+        Due.due("24: in year 20", x.can(0, 0), 10);
+        Due.due("25: in year 20", x.darked(0), 9);
+        x.spare(0);
+        Due.due("24: a year later", x.can(0, 0), 0);
+        Due.due("25: a year later", x.darked(1), -5);
+    }
+
     private static void darked() {
         EclipsesKept x = new EclipsesKept();
         Due.due("25: nothing seen", x.darked(0), 9);
@@ -119,6 +133,7 @@ public final class SeenTest {
     public static void main(String[] args) {
         see();
         can();
+        canAhead();
         darked();
         book();
         looked();

@@ -65,6 +65,8 @@ public final class YearsTest {
         Due.due("13: n 9", x.wise(0, 9), -2);
         x.darks(0);
         Due.due("13: no dark", x.wise(0, 1), 0);
+        x.darks(8);
+        Due.due("13: a dark for every year", x.wise(0, 8), 1);
         Due.due("13: even for nothing, as keeping is dear", poor().wise(0, 1), 1);
         EclipsesKept dear = two();
         Due.archived(dear, "keep 1");
@@ -107,6 +109,10 @@ public final class YearsTest {
         Due.due("15: 2", x.greedy(2, 0), 10);
         Due.due("15: 0", x.greedy(0, 0), 0);
         Due.due("15: 0", x.greedy(0, 1), 1);
+        EclipsesKept one = two();
+        Due.archived(one, "keep 0;shame 9 i=0");
+        Due.due("15: worth 1 and 0", one.greedy(1, 0), 1);
+        Due.due("15: worth 1 and 0", one.greedy(1, 1), 2);
         Due.due("15: none is served", poor().greedy(1, 0), -6);
         Due.due("15: none is served", poor().greedy(8, 0), -48);
         Due.due("15: n 9", x.greedy(9, 0), NO);
@@ -205,6 +211,19 @@ public final class YearsTest {
         Due.due("19: no dark", x.threshold(2), -5);
     }
 
+    /** A NEED (10) alone: of two darks, one can be used next year. */
+    private static void thresholdOfTwo() {
+        EclipsesKept x = new EclipsesKept();
+        Due.archived(x, "keep 0");
+        x.need(0, 0);
+        x.darks(2);
+        Due.due("19: the second dark is left over", x.threshold(2), 1);
+        Due.due("19: both can be used later", x.threshold(3), 11);
+        Due.due("19: both can be used later", x.threshold(8), 11);
+        Due.archived(x, "keep 4");
+        Due.due("19: 10 less 4 a year", x.threshold(3), 3);
+    }
+
     /** One CHILD with one dark, worth twice as much as four times 99 and some more next year. */
     private static void greatestThreshold() {
         String four = "fame 99 i<9;fame 99 i<9;fame 99 i<9;fame 99 i<9;";
@@ -229,6 +248,7 @@ public final class YearsTest {
         chosen();
         spent();
         threshold();
+        thresholdOfTwo();
         greatestThreshold();
         Due.end("YearsTest");
     }
