@@ -2,16 +2,26 @@
 final class Due {
     private static int wrong = 0;
     private static int looked = 0;
+    private static String sentence = "";
 
     private Due() {
+    }
+
+    /** What follows looks at this sentence of the document. */
+    static void begin(String name) {
+        sentence = name + ": ";
     }
 
     static void due(String what, long got, long want) {
         looked++;
         if (got != want) {
             wrong++;
-            System.out.println(what + ": answered " + got + ", due is " + want);
+            System.out.println(sentence + what + ": answered " + got + ", due is " + want);
         }
+    }
+
+    static int answers() {
+        return looked;
     }
 
     /** To be the last call of a main: exit code 1 if an answer was not due. */

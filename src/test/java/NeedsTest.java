@@ -131,33 +131,6 @@ public final class NeedsTest {
         Due.due("6: no such need", x.spare(-1), FAR_NONE);
     }
 
-    /** Past the 512 calls that are promised, but the document names these ends. */
-    private static void ends() {
-        EclipsesKept x = new EclipsesKept();
-        x.need(0, 1);
-        Due.archived(x, "fame 99 i=0;fame 99 i=0;fame 99 i=0;fame 99 i=0;fame 99 i=0;keep 0");
-        for (int k = 0; k < 1980; k++) {
-            x.serve(0);
-            x.darks(3);
-        }
-        Due.due("5: near the greatest", x.told(2), 1980 * 505);
-        Due.due("5: held to the greatest", x.serve(0), 999999);
-        Due.archived(x, "keep 99");
-        x.darks(8);
-        for (int k = 0; k < 2525; k++) {
-            x.spare(0);
-        }
-        Due.due("6: 792 a year less", x.told(2), 999999 - 2525 * 792);
-        Due.due("6: held to the least", x.spare(0), -999999);
-        for (int k = x.told(0); k < 9998; k++) {
-            x.spare(0);
-        }
-        Due.due("5: the last year", x.serve(0), -999999);
-        Due.due("5: year 9999", x.serve(0), FAR_BAD);
-        Due.due("6: year 9999", x.spare(0), FAR_BAD);
-        Due.due("6: year 9999", x.told(0), 9999);
-    }
-
     private static void darks() {
         EclipsesKept x = new EclipsesKept();
         Due.due("7: were 3", x.darks(8), 3);
@@ -196,7 +169,6 @@ public final class NeedsTest {
         worthBelow();
         serve();
         spare();
-        ends();
         darks();
         row();
         Due.end("NeedsTest");
