@@ -173,7 +173,8 @@ public final class EclipsesKept {
         if (n < 1 || n > MOST_YEARS) {
             return BAD;
         }
-        years.ask(state, n, state.darks, Years.BEST, 0);
+        years.look(state, n, state.darks);
+        years.weigh(n, Years.BEST, 0);
         return years.serves(need, n, state.darks, Years.BEST, 0) ? 1 : 0;
     }
 
@@ -182,7 +183,8 @@ public final class EclipsesKept {
             return NO;
         }
         int more = state.darks + 1;
-        years.ask(state, n, more, Years.BEST, 0);
+        years.look(state, n, more);
+        years.weigh(n, Years.BEST, 0);
         return fraction(years.totals[n][more] - years.totals[n][state.darks], years.ways[n], part);
     }
 
@@ -209,7 +211,8 @@ public final class EclipsesKept {
         if (!isAsked(n, part)) {
             return NO;
         }
-        years.ask(state, n, state.darks, Years.BEST, 0);
+        years.look(state, n, state.darks);
+        years.weigh(n, Years.BEST, 0);
         return fraction(years.waysToSpend(n, state.darks), years.ways[n], part);
     }
 
@@ -220,7 +223,8 @@ public final class EclipsesKept {
         if (state.needCount == 0 || state.darks == 0) {
             return NOT_ANY;
         }
-        years.ask(state, n, state.darks, Years.BEST, 0);
+        years.look(state, n, state.darks);
+        years.weigh(n, Years.BEST, 0);
         long least = years.leastWise(n, state.darks);
         return least > MOST_WORTH ? NOT_ANY : (int) least;
     }
@@ -499,7 +503,8 @@ public final class EclipsesKept {
         if (!isAsked(n, part)) {
             return NO;
         }
-        years.ask(state, n, state.darks, rule, set);
+        years.look(state, n, state.darks);
+        years.weigh(n, rule, set);
         return fraction(years.totals[n][state.darks], years.ways[n], part);
     }
 
@@ -688,13 +693,8 @@ public final class EclipsesKept {
             return (t * (MOST_DARKS + 1) + d) * MOST_NEEDS + i;
         }
 
-        void ask(State now, int n, int most, int rule, int set) {
-            look(now, n, most);
-            weigh(n, rule, set);
-        }
-
         /** Fills the totals for 0 to n years left: n are all that were looked at. */
-        private void weigh(int n, int rule, int set) {
+        void weigh(int n, int rule, int set) {
             for (int left = 1; left <= n; left++) {
                 for (int d = 0; d <= mostDarks; d++) {
                     totals[left][d] = weighYear(left, d, rule, set);

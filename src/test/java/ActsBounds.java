@@ -161,36 +161,62 @@ final class ActsBounds {
     }
 
     static void p30_seenComesBack() {
+        // In year 1 a BIRD is worth its v, in year 2 ten more.
         EclipsesKept x = new EclipsesKept();
         x.need(5, 0);
-        x.need(5, 0);
+        x.need(5, 3);
         for (int k = 0; k < 4; k++) {
             x.see(0, 7, 1);
         }
-        x.see(1, 0, 1);
+        x.see(1, 13, 2);
         x.image();
         x.see(-1, 0, 0);
-        x.see(0, 2, 1);
-        Due.due("other", x.can(0, 1), 2);
+        for (int k = 0; k < 4; k++) {
+            x.see(1, 12, 2);
+        }
+        x.see(0, 0, 1);
+        Due.due("other, of the second", x.can(1, 1), 2);
         x.undo();
         Due.due("SEEN", x.count(3), 5);
         Due.due("of the first", x.can(0, 1), 7);
+        Due.due("of the first", x.can(0, 0), 1);
         Due.due("full", x.see(0, 0, 0), -4);
     }
 
     static void p30_bookComesBack() {
-        EclipsesKept x = one(0, 0);
+        EclipsesKept x = new EclipsesKept();
+        x.need(0, 0);
+        x.need(0, 0);
+        x.serve(1);
         for (int k = 0; k < 7; k++) {
-            x.book(0, 0);
+            x.book(1, 1);
         }
         x.book(0, 5);
         x.image();
         x.book(-1, 0);
-        x.book(0, 0);
+        for (int k = 0; k < 8; k++) {
+            x.book(0, 0);
+        }
+        Due.due("other", x.looked(), -5);
         x.undo();
         Due.due("BOOK", x.count(4), 8);
         Due.due("the eighth", x.looked(), 7);
         Due.due("full", x.book(0, 0), -4);
+    }
+
+    static void p30_theBooksNeedsComeBack() {
+        EclipsesKept x = new EclipsesKept();
+        x.need(0, 0);
+        x.need(0, 0);
+        x.book(1, 0);
+        x.image();
+        x.book(-1, 0);
+        x.book(0, 0);
+        x.undo();
+        x.serve(0);
+        Due.due("the first is served", x.looked(), -5);
+        x.serve(1);
+        Due.due("the second is served", x.looked(), 0);
     }
 
     static void p30_whatIsNotInTheImageStays() {

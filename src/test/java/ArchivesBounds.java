@@ -100,6 +100,15 @@ final class ArchivesBounds {
         good("keep 1;".repeat(8) + "keep 1");
     }
 
+    static void t1_allTenClausesAreAsked() {
+        EclipsesKept x = new EclipsesKept();
+        x.need(0, 0);
+        Due.due("ten", Due.archived(x, "keep 1;keep 2;keep 3;keep 4;keep 5;keep 6;fame 1 i=0;fame 2 i=0;"
+                + "shame 9 i=0;fame 9 i=0"), 0);
+        Due.due("worth", x.of(0, 3), 13);
+        Due.due("keep", x.told(3), 6);
+    }
+
     static void t1_clausesOfAllSortsAreCounted() {
         String nine = "keep 1;".repeat(7) + "fame 1 i=1;shame 1 i=1";
         good(nine + ";keep 1");

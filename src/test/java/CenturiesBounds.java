@@ -136,6 +136,12 @@ final class CenturiesBounds {
         }
     }
 
+    static void t2_behindTheLastDarkNothingIsKept() {
+        Due.due("one dark", told("keep 3", 1, 0, 0, 0).ends(1), 10);
+        Due.due("two darks", told("keep 3", 2, 0, 0, 0).ends(1), 10 - 3 + 10);
+        Due.due("no dark", told("keep 3", 0, 0, 0, 0).ends(1), 0);
+    }
+
     static void t2_eachIsServedEvenForNothing() {
         // The CROWN in year 1 takes the second dark, and none is left for year 2.
         Due.due("each", told("keep 0", 2, 1, 1, 1).ends(1), 10);

@@ -404,6 +404,15 @@ final class NeedsBounds {
         Due.due("served", x.of(0, 2), 0);
     }
 
+    static void t1_the512thCallIsAnswered() {
+        EclipsesKept x = new EclipsesKept();
+        x.need(1, 0);
+        for (int k = 0; k < 510; k++) {
+            x.spare(0);
+        }
+        Due.due("the 512th: worth 60 years behind year 510", x.worth(0, 60, 0), 10 + 570 % 8);
+    }
+
     // ---- promises 7 and 8
 
     static void p07_darksAre0To8() {

@@ -499,13 +499,15 @@ final class YearsBounds {
     }
 
     static void t2_spentIsByTheYearsThatAreLeftThen() {
-        // 10 waits for 99 in the first year, but not in the last.
-        EclipsesKept x = worth(0, 1, 10, 99);
-        spent(x, 1, 1, 1);
-        spent(x, 2, 1, 1);
-        // 0 is never served: three years without the 99.
+        // With two years left 10 waits for 99, with one it does not; 0 is never served.
+        EclipsesKept x = worth(0, 1, 0, 10, 99);
+        spent(x, 1, 2, 3);
+        spent(x, 2, 7, 9);
+    }
+
+    static void t2_spentIsHowLikelyNoDarkIsLeft() {
+        // Three years without the 99; of two darks both are spent if 99 comes twice.
         spent(worth(0, 1, 0, 99), 3, 7, 8);
-        // Of two darks both are spent if 99 comes twice.
         spent(worth(0, 2, 0, 99), 2, 1, 4);
     }
 
@@ -559,6 +561,19 @@ final class YearsBounds {
         Due.due("threshold(2)", x.threshold(2), 13);
         Due.due("12", x.wise(2, 2), 0);
         Due.due("16", x.wise(3, 2), 1);
+    }
+
+    static void t2_thresholdIsByAllTheDarksThereAre() {
+        EclipsesKept x = worth(0, 2, 10);
+        // Of two darks one is left over next year, but not in the two next years.
+        Due.due("threshold(2)", x.threshold(2), 1);
+        Due.due("threshold(3)", x.threshold(3), 11);
+        // Behind 10 or 4 two darks are worth 14 in two years, one is worth 17 by two.
+        x = worth(0, 2, 10, 4);
+        Due.due("10 or 4: threshold(2)", x.threshold(2), 1);
+        Due.due("10 or 4: threshold(3)", x.threshold(3), 6);
+        x = worth(4, 2, 10);
+        Due.due("10 less what keeping costs", x.threshold(3), 3);
     }
 
     /** A CHILD in year 1 is worth twice 10, 4 * 99, so much and the year. */
